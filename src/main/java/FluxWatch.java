@@ -842,10 +842,6 @@ public final class FluxWatch {
             room = Math.min(newRoom, WATCH_ROOM);
         }
 
-        boolean isOn(int span, int day) {
-            return day >= from[span] && day <= to[span];
-        }
-
         int add(int newCoil, int newFrom, int newTo) {
             if (many >= room) {
                 return FULL;
@@ -861,7 +857,7 @@ public final class FluxWatch {
         int coilsOn(int day) {
             int bits = 0;
             for (int i = 0; i < many; i++) {
-                if (isOn(i, day)) {
+                if (day >= from[i] && day <= to[i]) {
                     bits |= 1 << coil[i];
                 }
             }
@@ -871,7 +867,7 @@ public final class FluxWatch {
         int manyOn(int day) {
             int on = 0;
             for (int i = 0; i < many; i++) {
-                if (isOn(i, day)) {
+                if (day >= from[i] && day <= to[i]) {
                     on++;
                 }
             }
@@ -1217,25 +1213,16 @@ public final class FluxWatch {
         }
 
         private boolean readPiece(int brackets, int nots) {
-            switch (tape.sort) {
-                case Tape.NUMBER:
-                    return readPart(tape.value);
-                case Tape.WORD:
-                    return isNameOpen() && readPart(Law.BYTES + tape.value);
-                case '!':
-                    return nots < DEEPEST && readNot(brackets, nots + 1);
-                case '(':
-                    return brackets < DEEPEST && readBracket(brackets + 1, nots);
-                default:
-                    return false;
+            if (tape.sort == Tape.NUMBER || isNameOpen()) {
+                addPiece(tape.sort == Tape.NUMBER ? tape.value : Law.BYTES + tape.value);
+                parts++;
+                tape.openNext();
+                return true;
             }
-        }
-
-        private boolean readPart(int piece) {
-            addPiece(piece);
-            parts++;
-            tape.openNext();
-            return true;
+            if (tape.sort == '!' && nots < DEEPEST) {
+                return readNot(brackets, nots + 1);
+            }
+            return tape.sort == '(' && brackets < DEEPEST && readBracket(brackets + 1, nots);
         }
 
         private boolean readNot(int brackets, int nots) {
@@ -1257,6 +1244,9 @@ public final class FluxWatch {
         }
 
         private boolean isNameOpen() {
+            if (tape.sort != Tape.WORD) {
+                return false;
+            }
             switch (tape.value) {
                 case 's':
                 case 'd':
@@ -1569,14 +1559,15 @@ public final class FluxWatch {
                 return BUY_DAYS + 1;
             }
             if (daysOfSize[size] == 0) {
-                daysOfSize[size] = daysUntilBelow(v, size, world);
+                daysOfSize[size] = daysUntilBelow(v, size, world, Math.min(chosenDays, BUY_DAYS));
             }
             return daysOfSize[size];
         }
 
-        int daysUntilBelow(int v, int size, World world) {
+        /** Days beyond the most are no longer of use, as another set has fewer: they count as too many. */
+        int daysUntilBelow(int v, int size, World world, int most) {
             int belief = world.belief;
-            for (int i = 0; i < BUY_DAYS; i++) {
+            for (int i = 0; i < most && i < BUY_DAYS; i++) {
                 int day = world.day + i;
                 int seen = seenAhead[i] + size;
                 belief = believed(belief, world.rateOn(day, seen), world.knockOn(day, seen), fitsAhead[i]);

@@ -72,6 +72,9 @@ public final class DaysTest {
         x.set(2, 7);
         x.step(0, 0, 1, 80);
         t.due("x and y are 0 again", x.since(1), 7);
+        Due.law(x, "rate 1");
+        x.set(2, 1);
+        t.due("x and y are 1", x.since(1), 10000);
     }
 
     private static void drawsWithoutWorld() {
@@ -110,6 +113,18 @@ public final class DaysTest {
         t.due("its coil, of two", x.told(1, 1), second[(z4 >>> 8) % 2]);
         t.due("its day then", x.told(1, 2), 1);
         t.due("its height, a knock's", x.told(1, 3), heights[(z5 >>> 8) % 5]);
+        oneKnock();
+    }
+
+    private static void oneKnock() {
+        FluxWatch x = new FluxWatch();
+        x.coil(1);
+        x.watch(0, 0, 0);
+        x.knock(-321);
+        Due.law(x, "knock 999");
+        x.run(1);
+        t.due("the only coil", x.told(0, 1), 0);
+        t.due("the only knock", x.told(0, 3), -321);
     }
 
     private static void drawsWithWorld() {
@@ -236,6 +251,7 @@ public final class DaysTest {
         x.step(1, 0, 0, 80);
         t.due("since(-1)", x.since(-1), FluxWatch.BAD);
         t.due("since(201)", x.since(201), FluxWatch.BAD);
+        t.due("since(200)", x.since(200), 0);
         t.due("since(0)", x.since(0), 5000);
         // r is 0 on day 0: a step that fits is a knock
         t.due("since(1)", x.since(1), 0);
@@ -320,6 +336,9 @@ public final class DaysTest {
         t.due("it is cut each day", x.await(), day < x.count(9) + 200 ? day : FluxWatch.NONE);
         Due.law(x, "rate 4");
         t.due("some days", x.await(), 173);
+        // 1000000 becomes 822000, 591018 and then just 500001
+        Due.law(x, "rate (d=1)*178+(d=2)*281+(d=3)*154+(d>3)*9");
+        t.due("one above half", x.await(), 4);
     }
 
     private static void beyond() {

@@ -48,7 +48,7 @@ public final class ImagesTest {
         x.watch(1, 5, 1999);
         x.set(3, 1);
         Due.law(x, "rate 300+d");
-        Due.law(x, "knock 200");
+        Due.law(x, "knock 100*s-200");
         x.knock(80);
         x.knock(-33);
         x.seed(99);
@@ -152,6 +152,14 @@ public final class ImagesTest {
         t.due("the days beyond", checked(x, rows, 8, 4), 0);
     }
 
+    private static int[] stepsOf(FluxWatch x) {
+        int[] told = new int[4 * x.count(2)];
+        for (int i = 0; i < told.length; i++) {
+            told[i] = x.told(i / 4, i % 4);
+        }
+        return told;
+    }
+
     private static void keepAndBack() {
         FluxWatch x = busy();
         t.due("back to none", x.back(), FluxWatch.NO);
@@ -163,12 +171,14 @@ public final class ImagesTest {
         x.offer(2, 3);
         x.set(0, 70);
         x.set(1, 6);
+        x.step(3, 1, 5, 444);
+        x.step(2, 0, 6, -555);
         t.due("keep", x.keep(), 7);
         int[] counts = new int[13];
         for (int i = 0; i < 13; i++) {
             counts[i] = x.count(i);
         }
-        int height = x.told(0, 3);
+        int[] steps = stepsOf(x);
         for (int again = 0; again < 2; again++) {
             x.run(9);
             x.coil(9);
@@ -179,6 +189,8 @@ public final class ImagesTest {
             x.creep(1, -1);
             x.creep(2, 5);
             x.drop(0);
+            x.drop(x.count(2) - 1);
+            x.drop(1);
             x.turns(0, 5);
             x.step(0, 0, 0, 999);
             x.key(0, 9);
@@ -195,11 +207,15 @@ public final class ImagesTest {
             for (int i = 0; i < 13; i++) {
                 t.due("count " + i + " as it was", x.count(i), counts[i]);
             }
-            t.due("height", x.told(0, 3), height);
+            int[] then = stepsOf(x);
+            for (int i = 0; i < steps.length; i++) {
+                t.due("step " + i / 4 + ", " + i % 4, then[i], steps[i]);
+            }
             t.due("mate", x.coilTold(0, 2), 1);
             t.due("creep", x.coilTold(1, 1), 4);
             t.due("keys", x.keys(9), 0);
             t.due("best", x.best(9999, 1), 3);
+            t.due("its price", x.best(9999, 2), 5);
             t.due("r", x.news(7, 0), 307);
             t.due("why stars", x.why(2), FluxWatch.NONE);
             t.due("why rate", x.why(0), 0);

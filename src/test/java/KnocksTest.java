@@ -14,6 +14,8 @@ public final class KnocksTest {
         soonest();
         soonestByLaws();
         soonestOfEqual();
+        soonestOfAll();
+        soonestLater();
         t.end();
     }
 
@@ -130,6 +132,9 @@ public final class KnocksTest {
         t.due("each counts once", x.jokes(), 2);
         x.key(4, 9);
         t.due("on day 4", x.jokes(), 3);
+        x.drop(5);
+        x.drop(4);
+        t.due("one is dropped", x.jokes(), 2);
     }
 
     private static void offers() {
@@ -262,5 +267,32 @@ public final class KnocksTest {
         t.due("their days", x.soonest(20, 3000, 1), 1);
         t.due("two days", x.soonest(20, 2000, 1), 2);
         t.due("too dear", x.soonest(7, 3000, 1), FluxWatch.NONE);
+    }
+
+    private static void soonestOfAll() {
+        FluxWatch x = new FluxWatch();
+        for (int i = 0; i < 8; i++) {
+            x.offer(9, 1);
+        }
+        Due.law(x, "rate (s = 72) * 900");
+        t.due("all are needed", x.soonest(8, 3000, 0), 255);
+        t.due("on the first day", x.soonest(8, 3000, 1), 1);
+        t.due("their price", x.soonest(8, 3000, 2), 8);
+    }
+
+    /** Days are those from the open one on, with what is seen on each of them. */
+    private static void soonestLater() {
+        FluxWatch x = new FluxWatch();
+        x.coil(9);
+        x.watch(0, 10, 1999);
+        x.run(7);
+        x.set(2, 5000);
+        t.due("without offers as it falls", x.soonest(0, 4990, 1), x.falls(4990) - 7 + 1);
+        t.due("on day 10, the fourth", x.soonest(0, 4990, 1), 4);
+        x.offer(5, 1);
+        t.due("an offer is sooner", x.soonest(1, 4990, 1), 1);
+        x.step(0, 0, 7, 80);
+        t.due("a step of the open day, on which nothing is seen", x.soonest(1, 1, 1), 1);
+        t.due("is a knock only without the offer", x.soonest(1, 1, 0), 0);
     }
 }

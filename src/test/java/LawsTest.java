@@ -81,6 +81,12 @@ public final class LawsTest {
         fault("rate 5s", 6);
         fault("rate ss", 5);
         fault("rate S", 5);
+        fault("rate sz", 5);
+        fault("rate za", 5);
+        fault("xate 5", 0);
+        fault("ratf 5", 0);
+        fault("knocc 5", 0);
+        fault("xtars 5", 0);
         fault("rate\t5", 4);
         fault("rate 5\n", 6);
         fault("rate 5" + (char) 233, 6);
@@ -187,6 +193,14 @@ public final class LawsTest {
         gives("!0*7", 7);
         gives("!(1=2)*9", 9);
         gives("!1=0", 1);
+        gives("(0|0)+5", 5);
+        gives("(0&3)+5", 5);
+        gives("(3&0)+5", 5);
+        gives("(3<2)+5", 5);
+        gives("(2>3)+5", 5);
+        gives("(2=3)+5", 5);
+        gives("!3+5", 5);
+        gives("4/0+5", 5);
     }
 
     private static void values2() {
@@ -256,6 +270,7 @@ public final class LawsTest {
         t.due("the tape is used up", x.count(11), 0);
         t.due("fourteen texts", x.count(3), 14);
         t.due("the last one that was told", x.news(0, 0), 13);
+        t.due("told of 14", x.textTold(14, 0), FluxWatch.BAD);
         t.due("why", x.why(0), 13);
     }
 
@@ -270,5 +285,20 @@ public final class LawsTest {
         t.due("45 numbers", x.textTold(0, 1), 45);
         longest.setCharAt(95, '+');
         t.due("96 bytes and no end", Due.law(x, longest.toString()), -196);
+        t.due("a fault that is a word", Due.law(x, "rate ss"), -105);
+        t.due("goes with its tape", Due.law(x, "rate s"), 1);
+        t.due("a fault that is a number", Due.law(x, "rate 5 5"), -107);
+        t.due("goes, too", Due.law(x, "rate s"), 2);
+        Due.type(x, "rate sss");
+        x.trim(6);
+        t.due("a word ends with the tape", x.text(), 3);
+        Due.type(x, "rate 12345");
+        x.trim(9);
+        t.due("a number ends with the tape", x.text(), 4);
+        t.due("its value is held", x.news(0, 0), 999);
+        Due.type(x, "rate 345");
+        x.trim(7);
+        t.due("a number of two digits", x.text(), 5);
+        t.due("its value", x.news(0, 0), 34);
     }
 }

@@ -6,6 +6,7 @@ public final class StepsTest {
         step();
         fitsByHeight();
         fitsByKind();
+        fitsAtTheEdge();
         worth();
         told();
         as();
@@ -104,6 +105,20 @@ public final class StepsTest {
         t.due("parted", x.told(6, 4), 0);
     }
 
+    private static void fitsAtTheEdge() {
+        FluxWatch x = withCoils(2);
+        x.set(0, 1);
+        x.pair(0, 1);
+        x.step(1, 0, 0, 1);
+        x.step(3, 1, 0, 1);
+        x.step(3, 1, 0, 0);
+        x.step(3, 1, 0, -1);
+        t.due("just of 1", x.told(0, 4), 1);
+        t.due("paired of 1, with the first step", x.told(1, 4), 1);
+        t.due("paired of 0", x.told(2, 4), 0);
+        t.due("paired of -1", x.told(3, 4), 0);
+    }
+
     private static void worth() {
         FluxWatch x = withCoils(1);
         int[] of81 = {81, 161, 40, 322, 39, 0};
@@ -187,6 +202,14 @@ public final class StepsTest {
         t.due("the second is first", x.told(0, 3), 20);
         t.due("one more behind", x.step(0, 0, 0, 77), 2);
         t.due("the line without them", x.line(0, 4), 97);
+        while (x.count(2) < 40) {
+            x.step(0, 1, 0, x.count(2));
+        }
+        t.due("drop the last of forty", x.drop(39), 39);
+        x.step(0, 1, 0, 500);
+        t.due("drop one amid forty", x.drop(20), 39);
+        t.due("the last one then", x.told(38, 3), 500);
+        t.due("the one amid them", x.told(20, 3), 21);
     }
 
     private static void set() {
