@@ -278,6 +278,10 @@ public final class KnocksTest {
         t.due("all are needed", x.soonest(8, 3000, 0), 255);
         t.due("on the first day", x.soonest(8, 3000, 1), 1);
         t.due("their price", x.soonest(8, 3000, 2), 8);
+        x.clear();
+        x.offer(9, 1);
+        t.due("those that were cleared are gone", x.soonest(99, 3000, 0), FluxWatch.NONE);
+        t.due("for the best, too", x.best(99, 1), 9);
     }
 
     /** Days are those from the open one on, with what is seen on each of them. */
@@ -291,6 +295,8 @@ public final class KnocksTest {
         t.due("on day 10, the fourth", x.soonest(0, 4990, 1), 4);
         x.offer(5, 1);
         t.due("an offer is sooner", x.soonest(1, 4990, 1), 1);
+        x.step(0, 0, 6, 80);
+        t.due("a step of a day that is gone", x.soonest(0, 4990, 1), 4);
         x.step(0, 0, 7, 80);
         t.due("a step of the open day, on which nothing is seen", x.soonest(1, 1, 1), 1);
         t.due("is a knock only without the offer", x.soonest(1, 1, 0), 0);
