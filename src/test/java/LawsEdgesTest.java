@@ -94,7 +94,7 @@ public final class LawsEdgesTest {
         fault("two signs are not one", "rate 5==5", 7);
     }
 
-    /** Each of the 256 bytes, where a text begins, where a piece is wanted, and behind a piece. */
+    /** Each of the 256 bytes: where a text begins, where a piece is wanted (first, and behind one that was), behind a piece. */
     private static void everyByte() {
         for (int b = 0; b < 256; b++) {
             String told = "\\x%02x".formatted(b);
@@ -102,9 +102,11 @@ public final class LawsEdgesTest {
             boolean digit = b >= '0' && b <= '9';
             t.edge(26, "byte " + b + " alone", "'" + told + "' FAULT " + (blank ? 1 : 0));
             if (digit || "sdw".indexOf(b) >= 0) {
-                t.edge(26, "byte " + b + " is a PIECE", "'rate " + told + "' 0; textTold(0, 1) 1");
+                t.edge(26, "byte " + b + " is a PIECE", "'rate " + told + "' 0; textTold(0, 1) 1; 'rate s+" + told + "' 1; textTold(1, 1) 2");
             } else {
-                fault("byte " + b + " as a PIECE", "rate " + told, blank || b == '!' || b == '(' ? 6 : 5);
+                boolean goesOn = blank || b == '!' || b == '(';
+                fault("byte " + b + " as a PIECE", "rate " + told, goesOn ? 6 : 5);
+                fault("byte " + b + " as another PIECE", "rate s+" + told, goesOn ? 8 : 7);
             }
             if (digit || blank) {
                 t.edge(26, "byte " + b + " behind a PIECE", "'rate 5" + told + "' 0; textTold(0, 1) 1");
